@@ -343,7 +343,8 @@ public final class CutConformer {
         }
 
         private int longerLine(int blank) {
-            return Math.max(blank, text.length - 1 - blank);
+            int behind = text.length - 1 - blank;
+            return blank > behind ? blank : behind;
         }
 
         private boolean isWord(int from, String word) {
@@ -650,6 +651,11 @@ public final class CutConformer {
             return best;
         }
 
+        boolean isMissed(int frame, int reach) {
+            int near = nearest(frame, reach);
+            return near != NONE && near != frame;
+        }
+
         void insert(int frame) {
             if (count >= MOST_SHOTS || has(frame)) return;
             int place = count;
@@ -725,17 +731,14 @@ public final class CutConformer {
             return next == NONE ? LATEST_END : track.at(next).first - settings.at(GAP);
         }
 
-        int shotNear(int frame) {
-            return shots.nearest(frame, settings.at(REACH));
-        }
-
         int faultsOf(int i) {
             Subtitle row = track.at(i);
+            int reach = settings.at(REACH);
             int sum = 0;
             if (row.length() < readingLength(row)) sum += TOO_SHORT;
             if (row.end > latestEnd(i)) sum += TOO_CLOSE;
             if (track.sharesFirst(i)) sum += SAME_FIRST;
-            if (isOffShot(row.first) || isOffShot(row.end)) sum += OFF_SHOT;
+            if (shots.isMissed(row.first, reach) || shots.isMissed(row.end, reach)) sum += OFF_SHOT;
             if (row.isTooWide(settings.at(WIDTH))) sum += TOO_WIDE;
             if (row.end > cut.frames()) sum += BEHIND_CUT;
             return sum;
@@ -749,11 +752,6 @@ public final class CutConformer {
                 if ((faultsOf(i) & wanted) != 0) faulty++;
             }
             return faulty;
-        }
-
-        private boolean isOffShot(int frame) {
-            int near = shotNear(frame);
-            return near != NONE && near != frame;
         }
     }
 
@@ -842,14 +840,15 @@ public final class CutConformer {
         }
 
         private void snap() {
+            int reach = result.settings.at(REACH);
             for (int i = 0; i < result.track.size(); i++) {
                 Subtitle row = result.track.at(i);
-                int shot = result.shotNear(row.first);
+                int shot = result.shots.nearest(row.first, reach);
                 if (shot != NONE && shot < row.end) row.first = shot;
-                shot = result.shotNear(row.end);
+                shot = result.shots.nearest(row.end, reach);
                 if (shot != NONE && shot > row.first) row.end = shot;
             }
-            // only now: a row that goes elsewhere at once would be snapped twice, or not at all
+            // not before: a row that changed its place within the loop could be snapped twice, or not at all
             result.track.settleAll();
         }
 

@@ -164,6 +164,8 @@ public final class StepsTest {
         check.due("apart", y.move(1, 20, 40), 1);
         Check.add(y, 40, 41, 1, "c");
         check.due("no common frames", y.conform(2), 3);
+        y.move(2, 39, 41);
+        check.due("one common frame", y.conform(2), 2);
     }
 
     private static void mergingKeepsPlaces() {
@@ -175,6 +177,7 @@ public final class StepsTest {
         Check.add(x, 0, 40, 0, "e");
         check.due("five", x.conform(2), 3);
         check.times("pairs", x, "0-20 0-30 0-40");
+        check.due("told of pairs", x.told(9), 2);
         check.due("third speaker", x.part(1, 0, 0), 2);
         check.due("fourth speaker", x.part(1, 1, 0), 3);
         check.due("two parts are not merged", x.conform(2), 3);
@@ -354,6 +357,8 @@ public final class StepsTest {
         check.due("27", x.ifConform(1, 0), FULL);
         check.due("BAD goes ahead", x.ifConform(1, 9), BAD);
         check.due("27 without mapping", x.ifConform(2, 0), 3);
+        x.move(0, 0, 5000);
+        check.due("the first one ends last", x.ifConform(2, 3), 5000);
     }
 
     private static void stretches() {

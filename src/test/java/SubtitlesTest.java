@@ -240,6 +240,8 @@ public final class SubtitlesTest {
         line(20, "aa. bbbbbbbb ccccccccc", 3, 0);
         line(17, "aa. bbbbbbbb ccccccccc", 12, 3);
         line(18, "aa. bbbbbbbb ccccccccc", 3, 0);
+        line(16, "aaaa. b, cccccccccccc", 5, 0);
+        line(16, "aaaaaaa, bbbbb. ccccc", 8, 1);
         line(40, "a b c d e f g h i j k l m n o p q r s t", 39, NONE);
         line(38, "a b c d e f g h i j k l m n o p q r s t", 19, 3);
     }

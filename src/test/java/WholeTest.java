@@ -110,6 +110,8 @@ public final class WholeTest {
 
     private static void digestByAnswers() {
         CutConformer x = filled();
+        Check.add(x, 300, 700, 3, "behind the cut, but long enough");
+        check.holds("faults that differ", x.faults(0) != x.faults(1));
         check.due("digest by answers", x.digest(), hash(x));
         for (int p = 0; p < 8; p++) x.piece(0, 300);
         check.due("if it is FULL", x.ifConform(31, 0), -3);
