@@ -2,6 +2,23 @@
 final class Check {
     private int right;
     private int wrong;
+    private int sentences;
+    private int beforeSentence;
+    private String sentence = "";
+
+    /** The sentence of the document that the answers from here on are held against. */
+    void sentence(String place, String words) {
+        endSentence();
+        sentence = place + ": " + words;
+        sentences++;
+    }
+
+    private void endSentence() {
+        boolean unproved = sentences > 0 && right + wrong == beforeSentence;
+        if (unproved) due("answers to '" + sentence + "'", 0, 1);
+        beforeSentence = right + wrong;
+        sentence = "";
+    }
 
     void due(String call, long got, long want) {
         if (got == want) {
@@ -9,7 +26,8 @@ final class Check {
             return;
         }
         wrong++;
-        System.out.println(call + " answered " + got + ", due is " + want);
+        if (!sentence.isEmpty()) System.out.println(sentence);
+        System.out.println("  " + call + " answered " + got + ", due is " + want);
     }
 
     void holds(String what, boolean so) {
@@ -21,6 +39,8 @@ final class Check {
     }
 
     void end(String test) {
+        endSentence();
+        if (sentences > 0) System.out.print(sentences + " sentences in ");
         System.out.println(test + ": " + right + " as due, " + wrong + " not");
         if (wrong != 0 || right == 0) System.exit(1);
     }

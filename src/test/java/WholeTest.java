@@ -113,9 +113,10 @@ public final class WholeTest {
         Check.add(x, 300, 700, 3, "behind the cut, but long enough");
         check.holds("faults that differ", x.faults(0) != x.faults(1));
         check.due("digest by answers", x.digest(), hash(x));
-        for (int p = 0; p < 8; p++) x.piece(0, 300);
-        check.due("if it is FULL", x.ifConform(31, 0), -3);
-        check.due("digest with FULL", x.digest(), hash(x));
+        CutConformer full = filled();
+        for (int p = 0; p < 8; p++) full.piece(0, 300);
+        check.due("if it is FULL", full.ifConform(31, 0), -3);
+        check.due("digest with FULL", full.digest(), hash(full));
     }
 
     private static long hash(CutConformer x) {
