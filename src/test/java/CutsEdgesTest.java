@@ -352,6 +352,13 @@ public final class CutsEdgesTest {
         check.due("far", x.toNew(20, GREATEST), NONE);
         check.due("in no piece", x.toNew(19, 0), NONE);
         check.due("the last one", x.toNew(24, 1), 9);
+        x.dropPiece(1);
+        check.due("the last piece is away", x.toNew(24, 1), NONE);
+        x.dropPiece(0);
+        check.due("all are away", x.toNew(24, 0), NONE);
+        for (int p = 0; p < 10; p++) x.piece(p, 1);
+        check.due("in none of ten", x.toNew(10, 0), NONE);
+        check.due("once in ten", x.toNew(9, 1), NONE);
     }
 
     private static void toNewBad() {
@@ -381,6 +388,13 @@ public final class CutsEdgesTest {
         x.piece(0, 4999);
         check.due("the last frame that there can be", x.toOld(9998), 4998);
         check.due("the one behind it then", x.toOld(9999), NONE);
+        x.dropPiece(1);
+        check.due("the last piece is away", x.toOld(5000), NONE);
+        x.dropPiece(0);
+        check.due("all are away", x.toOld(0), NONE);
+        for (int p = 0; p < 10; p++) x.piece(p, 1);
+        check.due("the last frame of ten pieces", x.toOld(9), 9);
+        check.due("the one behind ten pieces", x.toOld(10), NONE);
     }
 
     private static void toOldBad() {

@@ -121,6 +121,12 @@ public final class StepsEdgesTest {
         check.times("with the same first frame by their old numbers", x, "0-10 0-20 0-5 10-20");
         int[] speakers = {1, 2, 0, 3};
         for (int i = 0; i < 4; i++) check.due("speaker of " + i, x.part(i, 0, 0), speakers[i]);
+        CutConformer back = cut(80, 10, 60, 10, 40, 10, 20, 10, 0, 10);
+        for (int i = 0; i < 5; i++) back.add(20 * i, 20 * i + 10 - i, i % 4);
+        back.conform(1);
+        check.times("each ahead of all before it", back, "0-6 10-17 20-28 30-39 40-50");
+        int[] others = {0, 3, 2, 1, 0};
+        for (int i = 0; i < 5; i++) check.due("speaker of " + i + " then", back.part(i, 0, 0), others[i]);
     }
 
     private static void mappingSameParts() {

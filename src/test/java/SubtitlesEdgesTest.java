@@ -128,6 +128,12 @@ public final class SubtitlesEdgesTest {
         x.add(30, 40, 0);
         check.due("nothing of the old text", x.part(1, 0, 1), 1);
         check.due("no change", x.told(11), 2);
+        for (String old : new String[] {"a  b", "ab ", "     ", "b".repeat(39) + " "}) {
+            CutConformer y = new CutConformer();
+            Check.write(y, old);
+            check.due("a right text after '" + old + "'", Check.add(y, 1, 2, 0, "c"), 0);
+            check.due("its bytes", y.part(0, 0, 1), 1);
+        }
     }
 
     private static void clearReturns() {

@@ -18,6 +18,7 @@ public final class WholeEdgesTest {
         undoNotRemembered();
         undoBuffer();
         undoEach();
+        undoOverwritten();
         undoState();
         digestOfNew();
         digestWrapsAround();
@@ -154,6 +155,36 @@ public final class WholeEdgesTest {
         check.due("a piece", x.pieceAt(0, 0), 50);
         check.due("the last one", x.undo(), 0);
         check.due("no piece", x.told(5), 0);
+    }
+
+    private static void undoOverwritten() {
+        check.sentence("Promise 23", "Returns to the latest remembered state");
+        CutConformer x = new CutConformer();
+        x.piece(50, 10);
+        x.dropPiece(0);
+        x.piece(90, 20);
+        x.undo();
+        x.undo();
+        check.due("first frame of a piece", x.pieceAt(0, 0), 50);
+        check.due("length of a piece", x.pieceAt(0, 1), 10);
+        x.shot(30, true);
+        x.shot(30, false);
+        x.shot(70, true);
+        x.undo();
+        x.undo();
+        check.due("a shot change", x.shotAt(0), 30);
+        Check.add(x, 10, 20, 1, "one");
+        x.drop(0);
+        Check.add(x, 30, 40, 2, "other");
+        x.undo();
+        x.undo();
+        check.times("a subtitle", x, "10-20");
+        check.due("its speaker", x.part(0, 0, 0), 1);
+        check.holds("its text", Check.text(x, 0, 0).equals("one"));
+        x.set(3, 9);
+        x.set(3, 0);
+        x.undo();
+        check.due("a setting", x.told(3), 9);
     }
 
     private static void undoState() {
