@@ -72,6 +72,15 @@ final class Check {
         return all.toString();
     }
 
+    /** Where a text is broken in this width, and the rank of that blank. */
+    void line(int width, String text, int firstLine, int rank) {
+        CutConformer x = new CutConformer();
+        x.set(4, width);
+        add(x, 0, 9, 0, text);
+        due("first line of '" + text + "' in " + width, x.part(0, 0, 2), firstLine);
+        due("rank in '" + text + "' in " + width, x.part(0, 0, 3), rank);
+    }
+
     void times(String when, CutConformer x, String want) {
         String got = times(x);
         if (!got.equals(want)) System.out.println(when + ": " + got + ", due is " + want);

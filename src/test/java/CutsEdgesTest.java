@@ -39,13 +39,6 @@ public final class CutsEdgesTest {
         check.end("CutsEdgesTest");
     }
 
-    /** Pieces of these first frames and lengths. */
-    private static CutConformer cut(int... pieces) {
-        CutConformer x = new CutConformer();
-        for (int k = 0; k < pieces.length; k += 2) x.piece(pieces[k], pieces[k + 1]);
-        return x;
-    }
-
     private static CutConformer shots(int... frames) {
         CutConformer x = new CutConformer();
         for (int frame : frames) x.shot(frame, true);
@@ -85,7 +78,7 @@ public final class CutsEdgesTest {
 
     private static void pieceGoesToTheEnd() {
         check.sentence("Promise 2", "Adds a piece at the end of the edit list.");
-        CutConformer x = cut(500, 10, 100, 20);
+        CutConformer x = Make.cut(500, 10, 100, 20);
         check.due("an earlier stretch", x.piece(7, 30), 2);
         check.due("it is the last", x.pieceAt(2, 0), 7);
         check.due("it stands behind the others", x.pieceAt(2, 2), 30);
@@ -149,7 +142,7 @@ public final class CutsEdgesTest {
 
     private static void longestCut() {
         check.sentence("Promise 2", "or the new cut would be longer than 9999 frames.");
-        CutConformer x = cut(0, 5000);
+        CutConformer x = Make.cut(0, 5000);
         check.due("10000 frames", x.piece(0, 5000), FULL);
         check.due("9999 frames", x.piece(0, 4999), 1);
         check.due("the new cut", x.told(6), 9999);
@@ -162,7 +155,7 @@ public final class CutsEdgesTest {
 
     private static void dropPieceRemoves() {
         check.sentence("Promise 3", "Removes a piece.");
-        CutConformer x = cut(10, 1, 20, 2, 30, 3);
+        CutConformer x = Make.cut(10, 1, 20, 2, 30, 3);
         x.dropPiece(0);
         check.due("the first one: pieces", x.told(5), 2);
         check.due("the first one: what is first", x.pieceAt(0, 0), 20);
@@ -188,7 +181,7 @@ public final class CutsEdgesTest {
 
     private static void dropPieceReturns() {
         check.sentence("Promise 3", "Returns the length of the new cut then");
-        CutConformer x = cut(0, 5000, 0, 4999);
+        CutConformer x = Make.cut(0, 5000, 0, 4999);
         check.due("the longest", x.dropPiece(0), 4999);
         check.due("the only one", x.dropPiece(0), 0);
         check.due("told", x.told(6), 0);
@@ -207,7 +200,7 @@ public final class CutsEdgesTest {
 
     private static void pieceAtFirst() {
         check.sentence("Promise 4", "0 for its first frame in the old cut");
-        CutConformer x = cut(0, 5, 9999, 1, 5000, 4000);
+        CutConformer x = Make.cut(0, 5, 9999, 1, 5000, 4000);
         check.due("the least", x.pieceAt(0, 0), 0);
         check.due("the greatest", x.pieceAt(1, 0), 9999);
         check.due("the last piece", x.pieceAt(2, 0), 5000);
@@ -215,7 +208,7 @@ public final class CutsEdgesTest {
 
     private static void pieceAtLength() {
         check.sentence("Promise 4", "1 for its length");
-        CutConformer x = cut(0, 1, 5000, 5000, 7, 4998);
+        CutConformer x = Make.cut(0, 1, 5000, 5000, 7, 4998);
         check.due("the least", x.pieceAt(0, 1), 1);
         check.due("the greatest", x.pieceAt(1, 1), 5000);
         check.due("the last piece", x.pieceAt(2, 1), 4998);
@@ -223,7 +216,7 @@ public final class CutsEdgesTest {
 
     private static void pieceAtStart() {
         check.sentence("Promise 4", "2 for its first frame in the new cut");
-        CutConformer x = cut(300, 5000, 200, 4998, 100, 1);
+        CutConformer x = Make.cut(300, 5000, 200, 4998, 100, 1);
         check.due("the first piece", x.pieceAt(0, 2), 0);
         check.due("the one behind it", x.pieceAt(1, 2), 5000);
         check.due("the last frame that there can be", x.pieceAt(2, 2), 9998);
@@ -322,7 +315,7 @@ public final class CutsEdgesTest {
 
     private static void toNewFrame() {
         check.sentence("Promise 7", "Returns a frame of the new cut at which a frame of the old cut stands.");
-        CutConformer x = cut(100, 10, 0, 5, 9995, 5, 5000, 1);
+        CutConformer x = Make.cut(100, 10, 0, 5, 9995, 5, 5000, 1);
         int[][] want = {{99, NONE}, {100, 0}, {109, 9}, {110, NONE}, {0, 10}, {4, 14}, {5, NONE}, {9994, NONE},
             {9995, 15}, {9999, 19}, {4999, NONE}, {5000, 20}, {5001, NONE}};
         for (int[] w : want) check.due("" + w[0], x.toNew(w[0], 0), w[1]);
@@ -363,7 +356,7 @@ public final class CutsEdgesTest {
 
     private static void toNewBad() {
         check.sentence("Promise 7", "BAD if an argument is out of range.");
-        CutConformer x = cut(0, 5000, 5001, 4999);
+        CutConformer x = Make.cut(0, 5000, 5001, 4999);
         for (int frame : new int[] {-1, 10000, LEAST, GREATEST}) check.due("frame " + frame, x.toNew(frame, 0), BAD);
         for (int k : new int[] {-1, -9, LEAST}) check.due("k " + k, x.toNew(0, k), BAD);
         check.due("a frame in no piece, and a wrong k", x.toNew(5000, -1), BAD);
@@ -373,7 +366,7 @@ public final class CutsEdgesTest {
 
     private static void toOldFrame() {
         check.sentence("Promise 8", "Returns the frame of the old cut that stands at a frame of the new cut.");
-        CutConformer x = cut(100, 10, 0, 1, 9995, 5);
+        CutConformer x = Make.cut(100, 10, 0, 1, 9995, 5);
         int[][] want = {{0, 100}, {9, 109}, {10, 0}, {11, 9995}, {15, 9999}};
         for (int[] w : want) check.due("" + w[0], x.toOld(w[0]), w[1]);
     }

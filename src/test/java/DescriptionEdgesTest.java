@@ -34,17 +34,6 @@ public final class DescriptionEdgesTest {
         check.end("DescriptionEdgesTest");
     }
 
-    /** As much of everything as there can be. */
-    private static CutConformer brim() {
-        CutConformer x = new CutConformer();
-        for (int p = 0; p < 9; p++) x.piece(0, 1000);
-        x.piece(0, 999);
-        for (int k = 1; k <= 20; k++) x.shot(100 * k, true);
-        for (int k = 0; k < 40; k++) x.type('A' + k);
-        for (int i = 0; i < 16; i++) x.add(10 * i, 10 * i + 5, i % 4);
-        return x;
-    }
-
     private static void mostCalls() {
         check.sentence("What it is", "An object is used for at most 512 calls after it has been made");
         CutConformer x = new CutConformer();
@@ -64,7 +53,7 @@ public final class DescriptionEdgesTest {
         check.due("STATE", CutConformer.STATE, -2);
         check.due("FULL", CutConformer.FULL, -3);
         check.due("NONE", CutConformer.NONE, -9);
-        CutConformer x = brim();
+        CutConformer x = Make.most(Make.FORTY);
         check.due("out of range", x.shown(10000), -1);
         check.due("no such thing", x.pieceAt(10, 0), -1);
         check.due("not possible at present", new CutConformer().undo(), -2);
@@ -74,7 +63,7 @@ public final class DescriptionEdgesTest {
 
     private static void firstErrorInTheOrder() {
         check.sentence("RETURN VALUES", "If several of them apply to a call, the first one in this order is returned.");
-        CutConformer x = brim();
+        CutConformer x = Make.most(Make.FORTY);
         check.due("piece", x.piece(0, 0), BAD);
         check.due("piece out of the old cut", x.piece(9999, 2), BAD);
         check.due("shot", x.shot(9999, true), BAD);
@@ -124,10 +113,10 @@ public final class DescriptionEdgesTest {
     private static void refusedCallsChangeNothing() {
         check.sentence("RETURN VALUES", "A call that returns an error code, or -10 or less, changes nothing.");
         for (int k = 0; k < 30; k++) {
-            CutConformer x = brim();
+            CutConformer x = Make.most(Make.FORTY);
             int answer = refused(x, k);
             check.holds("call " + k + " is refused", answer == BAD || answer == FULL);
-            alike("call " + k, x, brim());
+            alike("call " + k, x, Make.most(Make.FORTY));
         }
         CutConformer x = new CutConformer();
         check.due("undo of nothing", x.undo(), STATE);
@@ -202,7 +191,8 @@ public final class DescriptionEdgesTest {
     }
 
     private static void framesOfPieces() {
-        check.sentence("CUTS", "a piece has a first frame in the old cut, and a length of 1 to 5000 frames, all of which are in the old cut.");
+        check.sentence("CUTS", "a piece has a first frame in the old cut, and a length of 1 to 5000 frames, all of which are in the "
+            + "old cut.");
         CutConformer x = new CutConformer();
         int[][] right = {{0, 1}, {0, 5000}, {9999, 1}, {5000, 4000}, {9990, 10}};
         for (int k = 0; k < right.length; k++) check.due("" + right[k][0], x.piece(right[k][0], right[k][1]), k);

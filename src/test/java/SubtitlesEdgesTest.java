@@ -2,7 +2,7 @@
 public final class SubtitlesEdgesTest {
     private static final int BAD = -1, FULL = -3, NONE = -9;
     private static final int LEAST = Integer.MIN_VALUE, GREATEST = Integer.MAX_VALUE;
-    private static final String FORTY = "forty bytes, as many as a text can have.";
+    private static final String FORTY = Make.FORTY;
     private static final Check check = new Check();
 
     public static void main(String[] args) {
@@ -43,14 +43,6 @@ public final class SubtitlesEdgesTest {
         partNone();
         partBad();
         check.end("SubtitlesEdgesTest");
-    }
-
-    /** Subtitles of one letter with these first frames and ends, in this order; all of speaker 0. */
-    private static CutConformer of(int... times) {
-        CutConformer x = new CutConformer();
-        x.type('a');
-        for (int k = 0; k < times.length; k += 2) x.add(times[k], times[k + 1], 0);
-        return x;
     }
 
     private static CutConformer withText(String text) {
@@ -200,7 +192,7 @@ public final class SubtitlesEdgesTest {
 
     private static void addNumber() {
         check.sentence("Promise 11", "Returns its number");
-        CutConformer x = of();
+        CutConformer x = Make.cut();
         check.due("of none", x.add(50, 60, 0), 0);
         check.due("ahead", x.add(49, 60, 0), 0);
         check.due("behind", x.add(51, 52, 0), 2);
@@ -218,7 +210,7 @@ public final class SubtitlesEdgesTest {
 
     private static void addBad() {
         check.sentence("Promise 11", "BAD if an argument is out of range or first is not less than end");
-        CutConformer x = of(10, 20);
+        CutConformer x = Make.timed(0, 10, 20);
         check.due("first below", x.add(-1, 20, 0), BAD);
         check.due("end above", x.add(10, 10000, 0), BAD);
         check.due("speaker below", x.add(10, 20, -1), BAD);
@@ -280,7 +272,7 @@ public final class SubtitlesEdgesTest {
 
     private static void dropRemoves() {
         check.sentence("Promise 12", "Removes a subtitle.");
-        CutConformer x = of(10, 11, 10, 12, 10, 13, 20, 21);
+        CutConformer x = Make.timed(0, 10, 11, 10, 12, 10, 13, 20, 21);
         x.drop(1);
         check.times("one of three with the same first frame", x, "10-11 10-13 20-21");
         x.drop(2);
@@ -313,7 +305,7 @@ public final class SubtitlesEdgesTest {
 
     private static void moveInTime() {
         check.sentence("Promise 13", "Moves a subtitle in time.");
-        CutConformer x = of(10, 20, 30, 40, 50, 60);
+        CutConformer x = Make.timed(0, 10, 20, 30, 40, 50, 60);
         x.move(1, 0, 9999);
         check.times("the widest", x, "0-9999 10-20 50-60");
         x.move(0, 9998, 9999);
@@ -326,7 +318,7 @@ public final class SubtitlesEdgesTest {
 
     private static void moveNumber() {
         check.sentence("Promise 13", "Returns its number then");
-        CutConformer x = of(10, 20, 30, 40, 50, 60);
+        CutConformer x = Make.timed(0, 10, 20, 30, 40, 50, 60);
         check.due("to the front", x.move(2, 9, 60), 0);
         check.due("to the back", x.move(0, 31, 60), 2);
         check.due("behind one with its first frame", x.move(0, 30, 31), 1);
@@ -335,7 +327,7 @@ public final class SubtitlesEdgesTest {
         CutConformer y = full();
         check.due("the first of 16 to the back", y.move(0, 9998, 9999), 15);
         check.due("and again to the front", y.move(15, 0, 9999), 0);
-        CutConformer z = of(10, 20);
+        CutConformer z = Make.timed(0, 10, 20);
         check.due("the only one", z.move(0, 0, 1), 0);
     }
 
@@ -343,7 +335,7 @@ public final class SubtitlesEdgesTest {
         check.sentence("Promise 13", "BAD if there is no such subtitle, a frame is out of range, or first is not less than end.");
         CutConformer x = new CutConformer();
         check.due("of none", x.move(0, 1, 2), BAD);
-        x = of(10, 20, 30, 40);
+        x = Make.timed(0, 10, 20, 30, 40);
         for (int i : new int[] {-1, 2, LEAST, GREATEST}) check.due("" + i, x.move(i, 1, 2), BAD);
         int[][] wrong = {{-1, 1}, {0, 0}, {0, 10000}, {9999, 9999}, {9999, 10000}, {5, 5}, {6, 5}, {LEAST, GREATEST}};
         for (int[] w : wrong) check.due(w[0] + " to " + w[1], x.move(1, w[0], w[1]), BAD);
@@ -353,7 +345,7 @@ public final class SubtitlesEdgesTest {
 
     private static void subtitleTimes() {
         check.sentence("Promise 14", "0 for its first frame, 1 for its end");
-        CutConformer x = of(0, 9999, 9998, 9999, 0, 1);
+        CutConformer x = Make.timed(0, 0, 9999, 9998, 9999, 0, 1);
         check.due("the least first frame", x.subtitle(0, 0), 0);
         check.due("the greatest end", x.subtitle(0, 1), 9999);
         check.due("the least end", x.subtitle(1, 1), 1);
@@ -415,10 +407,10 @@ public final class SubtitlesEdgesTest {
     private static void subtitleNext() {
         check.sentence("Promise 14", "6 for the number of the next subtitle with a greater first frame (the first one with it; "
             + "NONE if there is none)");
-        CutConformer x = of(10, 50, 10, 50, 11, 50, 11, 50, 9998, 9999);
+        CutConformer x = Make.timed(0, 10, 50, 10, 50, 11, 50, 11, 50, 9998, 9999);
         int[] want = {2, 2, 4, 4, NONE};
         for (int i = 0; i < 5; i++) check.due("" + i, x.subtitle(i, 6), want[i]);
-        CutConformer same = of(7, 8, 7, 9, 7, 10);
+        CutConformer same = Make.timed(0, 7, 8, 7, 9, 7, 10);
         for (int i = 0; i < 3; i++) check.due(i + " of three with the same first frame", same.subtitle(i, 6), NONE);
         CutConformer y = full();
         check.due("the 15th of 16", y.subtitle(14, 6), 15);

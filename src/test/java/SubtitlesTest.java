@@ -216,44 +216,35 @@ public final class SubtitlesTest {
         check.due("subtitle -1", x.part(-1, 0, 0), BAD);
     }
 
-    /** Where a text is broken, and the rank of that blank. */
-    private static void line(int width, String text, int firstLine, int rank) {
-        CutConformer x = new CutConformer();
-        x.set(4, width);
-        Check.add(x, 0, 9, 0, text);
-        check.due("first line of '" + text + "' in " + width, x.part(0, 0, 2), firstLine);
-        check.due("rank in '" + text + "' in " + width, x.part(0, 0, 3), rank);
-    }
-
     private static void lines() {
-        line(8, "ab cd ef", 8, NONE);
-        line(8, "ab cd efg", 5, 3);
-        line(8, "abcdefghij", 10, NONE);
-        line(10, "aaaa bbb ccc", 4, 3);
-        line(10, "aaa bb ccccc", 6, 3);
-        line(9, "aaa b ccc dd", 5, 3);
-        line(10, "aaaa b cccc", 4, 3);
-        line(8, "a bbbbbbbbbbbbbb cc", 16, 3);
-        line(8, "aaaaaaaaa bbbbbbbbb", 9, 3);
-        line(8, "aaaaaaaaa b ccccccccc", 9, 3);
-        line(8, "a, bb ccccccccccccc", 5, 3);
-        line(20, "aa. bbbbbbbb ccccccccc", 3, 0);
-        line(17, "aa. bbbbbbbb ccccccccc", 12, 3);
-        line(18, "aa. bbbbbbbb ccccccccc", 3, 0);
-        line(16, "aaaa. b, cccccccccccc", 5, 0);
-        line(16, "aaaaaaa, bbbbb. ccccc", 8, 1);
-        line(40, "a b c d e f g h i j k l m n o p q r s t", 39, NONE);
-        line(38, "a b c d e f g h i j k l m n o p q r s t", 19, 3);
+        check.line(8, "ab cd ef", 8, NONE);
+        check.line(8, "ab cd efg", 5, 3);
+        check.line(8, "abcdefghij", 10, NONE);
+        check.line(10, "aaaa bbb ccc", 4, 3);
+        check.line(10, "aaa bb ccccc", 6, 3);
+        check.line(9, "aaa b ccc dd", 5, 3);
+        check.line(10, "aaaa b cccc", 4, 3);
+        check.line(8, "a bbbbbbbbbbbbbb cc", 16, 3);
+        check.line(8, "aaaaaaaaa bbbbbbbbb", 9, 3);
+        check.line(8, "aaaaaaaaa b ccccccccc", 9, 3);
+        check.line(8, "a, bb ccccccccccccc", 5, 3);
+        check.line(20, "aa. bbbbbbbb ccccccccc", 3, 0);
+        check.line(17, "aa. bbbbbbbb ccccccccc", 12, 3);
+        check.line(18, "aa. bbbbbbbb ccccccccc", 3, 0);
+        check.line(16, "aaaa. b, cccccccccccc", 5, 0);
+        check.line(16, "aaaaaaa, bbbbb. ccccc", 8, 1);
+        check.line(40, "a b c d e f g h i j k l m n o p q r s t", 39, NONE);
+        check.line(38, "a b c d e f g h i j k l m n o p q r s t", 19, 3);
     }
 
     private static void ranks() {
         String[] before = {"aaaa.", "aaaa!", "aaaa?", "aaaa,", "aaaa:", "aaaa;", "aaaa-", "aaaa"};
         int[] rank = {0, 0, 0, 1, 1, 3, 3, 3};
-        for (int k = 0; k < before.length; k++) line(8, before[k] + " bbbbb", before[k].length(), rank[k]);
+        for (int k = 0; k < before.length; k++) check.line(8, before[k] + " bbbbb", before[k].length(), rank[k]);
         String[] behind = {"and", "or", "but", "And", "an", "ands", "but,", "nor", "o", "orr", "bat", "AND"};
         int[] joins = {2, 2, 2, 3, 3, 3, 3, 3, 3, 3, 3, 3};
-        for (int k = 0; k < behind.length; k++) line(8, "aaaaaaa " + behind[k], 7, joins[k]);
-        line(9, "aaaaaa and b", 6, 2);
-        line(9, "aaaaaa. and b", 7, 0);
+        for (int k = 0; k < behind.length; k++) check.line(8, "aaaaaaa " + behind[k], 7, joins[k]);
+        check.line(9, "aaaaaa and b", 6, 2);
+        check.line(9, "aaaaaa. and b", 7, 0);
     }
 }

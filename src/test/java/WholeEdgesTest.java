@@ -5,7 +5,6 @@ import java.util.List;
 /** Promises 22 to 24: a method for each sentence that names a boundary case. */
 public final class WholeEdgesTest {
     private static final int BAD = -1, STATE = -2, FULL = -3, NONE = -9;
-    private static final String FORTY = "forty bytes, as many as a text can have.";
     private static final Check check = new Check();
 
     public static void main(String[] args) {
@@ -19,6 +18,7 @@ public final class WholeEdgesTest {
         undoBuffer();
         undoEach();
         undoOverwritten();
+        undoOfMost();
         undoState();
         digestOfNew();
         digestWrapsAround();
@@ -76,20 +76,20 @@ public final class WholeEdgesTest {
 
     private static void toldMost() {
         check.sentence("Promise 22", "Returns one of several numbers.");
-        CutConformer x = most(FORTY);
+        CutConformer x = Make.most(Make.FORTY);
         int[] want = {2, 24, 2, 6, 16, 10, 9999, 20, 16, 0, 40, 8};
         for (int what = 0; what <= 11; what++) check.due("" + what, x.told(what), want[what]);
     }
 
     private static void toldBad() {
         check.sentence("Promise 22", "BAD if what is not 0 to 11.");
-        CutConformer x = most(FORTY);
+        CutConformer x = Make.most(Make.FORTY);
         for (int what : new int[] {-1, 12, -9, Integer.MIN_VALUE, Integer.MAX_VALUE}) check.due("" + what, x.told(what), BAD);
     }
 
     private static void undoReturns() {
         check.sentence("Promise 23", "Returns how many states are still remembered");
-        CutConformer x = most(FORTY);
+        CutConformer x = Make.most(Make.FORTY);
         for (int left = 7; left >= 0; left--) check.due("left", x.undo(), left);
         check.due("8 subtitles less", x.told(8), 8);
         CutConformer y = new CutConformer();
@@ -187,6 +187,31 @@ public final class WholeEdgesTest {
         check.due("a setting", x.told(3), 9);
     }
 
+    private static void undoOfMost() {
+        check.sentence("Promise 23", "Returns to the latest remembered state");
+        CutConformer x = Make.most("a");
+        x.shot(2000, false);
+        x.shot(1999, true);
+        x.undo();
+        x.undo();
+        check.due("the 20th shot change", x.shotAt(19), 2000);
+        x.dropPiece(9);
+        x.piece(5, 6);
+        x.undo();
+        x.undo();
+        check.due("the 10th piece", x.pieceAt(9, 1), 999);
+        x.drop(15);
+        x.add(9000, 9001, 0);
+        x.undo();
+        x.undo();
+        check.due("the 16th subtitle", x.subtitle(15, 0), 150);
+        x.set(4, 40);
+        x.set(4, 8);
+        x.undo();
+        x.undo();
+        check.due("the last setting", x.told(4), 16);
+    }
+
     private static void undoState() {
         check.sentence("Promise 23", "STATE if there is none.");
         CutConformer x = new CutConformer();
@@ -211,7 +236,7 @@ public final class WholeEdgesTest {
 
     private static void digestWrapsAround() {
         check.sentence("Promise 24", "then h becomes 31 * h + v (long arithmetic that wraps around)");
-        CutConformer[] objects = {new CutConformer(), talk(), most("a b")};
+        CutConformer[] objects = {new CutConformer(), talk(), Make.most("a b")};
         for (CutConformer x : objects) {
             BigInteger h = BigInteger.valueOf(18771);
             for (int v : values(x)) h = h.multiply(BigInteger.valueOf(31)).add(BigInteger.valueOf(v));
@@ -236,7 +261,7 @@ public final class WholeEdgesTest {
 
     private static void digestFull() {
         check.sentence("Promise 24", "ifConform(31, what) for 0 to 4 (also if it is FULL)");
-        CutConformer x = most("a");
+        CutConformer x = Make.most("a");
         for (int what = 0; what <= 4; what++) check.due("ifConform " + what, x.ifConform(31, what), FULL);
         long h = 18771;
         List<Integer> values = values(x);
@@ -247,8 +272,8 @@ public final class WholeEdgesTest {
 
     private static void digestOfMost() {
         check.sentence("Promise 24", "Computes a hash of the whole object.");
-        CutConformer x = most(FORTY);
-        check.due("two objects alike", x.digest(), most(FORTY).digest());
+        CutConformer x = Make.most(Make.FORTY);
+        check.due("two objects alike", x.digest(), Make.most(Make.FORTY).digest());
         long before = x.digest();
         x.clear();
         check.holds("the bytes of the buffer count", x.digest() != before);
@@ -256,17 +281,6 @@ public final class WholeEdgesTest {
         x.undo();
         check.due("states", x.told(11), 7);
         check.holds("so do the remembered states", x.digest() != before);
-    }
-
-    /** As much of everything as there can be. */
-    private static CutConformer most(String text) {
-        CutConformer x = new CutConformer();
-        for (int p = 0; p < 9; p++) x.piece(0, 1000);
-        x.piece(0, 999);
-        for (int k = 1; k <= 20; k++) x.shot(100 * k, true);
-        Check.write(x, text);
-        for (int i = 0; i < 16; i++) x.add(10 * i, 10 * i + 5, i % 4);
-        return x;
     }
 
     /** Each kind of value, and each fault. */

@@ -1,4 +1,4 @@
-/** Promises 22 to 24: told, undo and digest. */
+/** Promises 22 and 23: told and undo. Those of digest are in WholeEdgesTest. */
 public final class WholeTest {
     private static final int BAD = -1, STATE = -2;
     private static final Check check = new Check();
@@ -8,8 +8,6 @@ public final class WholeTest {
         undo();
         undoOfEach();
         mostStates();
-        digest();
-        digestByAnswers();
         check.end("WholeTest");
     }
 
@@ -97,43 +95,5 @@ public final class WholeTest {
         check.due("value then", x.told(1), 2);
         x.undo();
         check.due("value before", x.told(1), 1);
-    }
-
-    private static void digest() {
-        CutConformer x = new CutConformer();
-        long h = 18771;
-        long[] values = {2, 24, 2, 6, 16, 0, 0, 0, 0, 0, 0, 0, 0, 0, 0, 0, 0, 0, 0, 0, 0, 0, 0, 0};
-        for (long v : values) h = 31 * h + v;
-        check.due("digest of a new object", x.digest(), h);
-        check.due("digest once more", x.digest(), h);
-    }
-
-    private static void digestByAnswers() {
-        CutConformer x = filled();
-        Check.add(x, 300, 700, 3, "behind the cut, but long enough");
-        check.holds("faults that differ", x.faults(0) != x.faults(1));
-        check.due("digest by answers", x.digest(), hash(x));
-        CutConformer full = filled();
-        for (int p = 0; p < 8; p++) full.piece(0, 300);
-        check.due("if it is FULL", full.ifConform(31, 0), -3);
-        check.due("digest with FULL", full.digest(), hash(full));
-    }
-
-    private static long hash(CutConformer x) {
-        long h = 18771;
-        for (int what = 0; what < 12; what++) h = h * 31 + x.told(what);
-        for (int k = 0; k < 3 * x.told(5); k++) h = h * 31 + x.pieceAt(k / 3, k % 3);
-        for (int k = 0; k < x.told(7); k++) h = h * 31 + x.shotAt(k);
-        for (int i = 0; i < x.told(8); i++) {
-            for (int what = 0; what < 7; what++) h = h * 31 + x.subtitle(i, what);
-            h = h * 31 + x.stretches(i);
-            for (int p = 0; p < x.subtitle(i, 2); p++) {
-                for (int what = 0; what < 4; what++) h = h * 31 + x.part(i, p, what);
-                for (char c : Check.text(x, i, p).toCharArray()) h = h * 31 + c;
-            }
-        }
-        for (int fault : new int[] {0, 1, 2, 4, 8, 16, 32}) h = h * 31 + x.faults(fault);
-        for (int what = 0; what < 5; what++) h = h * 31 + x.ifConform(31, what);
-        return h;
     }
 }
