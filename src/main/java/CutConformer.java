@@ -46,7 +46,7 @@ public final class CutConformer {
     private final History history;
 
     public CutConformer() {
-        Part nobody = new Part(0, typed, 0);
+        Part nobody = new Part(0, new byte[0], 0);
         now = new State(nobody);
         trial = new Trial(nobody);
         history = new History(nobody);
@@ -861,11 +861,9 @@ public final class CutConformer {
         }
     }
 
-    /** The remembered states, in a ring. */
+    /** The remembered states, the latest one last. */
     private static final class History {
         private final State[] states = new State[MOST_STATES];
-        /** Where the next one is recorded, over the oldest one if there are as many as can be. */
-        private int place;
         private int count;
 
         History(Part nobody) {
@@ -877,16 +875,23 @@ public final class CutConformer {
         }
 
         void record(State state) {
-            states[place].become(state);
-            place = (place + 1) % MOST_STATES;
-            count = Math.min(count + 1, MOST_STATES);
+            if (count >= states.length) forgetOldest();
+            states[count].become(state);
+            count++;
         }
 
         void restore(State state) {
             if (count <= 0) return;
-            place = (place + MOST_STATES - 1) % MOST_STATES;
-            state.become(states[place]);
             count--;
+            state.become(states[count]);
+        }
+
+        /** Its rows go behind the others, so that they can be used again. */
+        private void forgetOldest() {
+            State oldest = states[0];
+            for (int k = 0; k + 1 < states.length; k++) states[k] = states[k + 1];
+            count = states.length - 1;
+            states[count] = oldest;
         }
     }
 }

@@ -30,8 +30,10 @@ public final class FaceTest {
             else seen.add(described(m));
         }
         check.holds("methods " + seen, seen.equals(METHODS));
+        Set<String> names = new TreeSet<>();
         for (String method : METHODS) {
             String name = method.substring(method.indexOf(' ') + 1, method.indexOf('('));
+            names.add(name);
             check.holds("no private " + name, !hidden.contains(name));
         }
         Set<String> constants = new TreeSet<>();
@@ -52,6 +54,9 @@ public final class FaceTest {
             int m = inside.getModifiers();
             check.holds(inside.getName() + " is static and not public",
                 Modifier.isStatic(m) && !Modifier.isPublic(m) && !Modifier.isProtected(m));
+            for (Method inner : inside.getDeclaredMethods()) {
+                check.holds(inside.getName() + " has no " + inner.getName(), !names.contains(inner.getName()));
+            }
         }
         check.end("FaceTest");
     }

@@ -1,4 +1,4 @@
-/** Promises 22 and 23: told and undo. Those of digest are in WholeEdgesTest. */
+/** Promises 22 and 23, told and undo, and the example of README.md. digest is in WholeEdgesTest. */
 public final class WholeTest {
     private static final int BAD = -1, STATE = -2;
     private static final Check check = new Check();
@@ -8,6 +8,7 @@ public final class WholeTest {
         undo();
         undoOfEach();
         mostStates();
+        exampleOfReadme();
         check.end("WholeTest");
     }
 
@@ -95,5 +96,22 @@ public final class WholeTest {
         check.due("value then", x.told(1), 2);
         x.undo();
         check.due("value before", x.told(1), 1);
+    }
+
+    private static void exampleOfReadme() {
+        CutConformer x = new CutConformer();
+        check.due("first piece", x.piece(100, 200), 0);
+        check.due("second piece", x.piece(400, 100), 1);
+        check.due("shot change", x.shot(192, true), 1);
+        for (char c : "well, it is late.".toCharArray()) x.type(c);
+        check.due("add", x.add(290, 420, 1), 0);
+        check.due("stretches", x.stretches(0), 1);
+        check.due("greatest end", x.ifConform(31, 3), 224);
+        check.due("conform", x.conform(31), 1);
+        check.due("first frame", x.subtitle(0, 0), 192);
+        check.due("end", x.subtitle(0, 1), 224);
+        check.due("first line", x.part(0, 0, 2), 5);
+        check.due("undo", x.undo(), 4);
+        check.due("first frame before", x.subtitle(0, 0), 290);
     }
 }
